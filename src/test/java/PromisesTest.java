@@ -148,6 +148,9 @@ public final class PromisesTest {
         tells("nn2;", -10);
         tells("fk0 1 1;", -10);
         tells("a1;", -10);
+        tells("na2;", -10);
+        tells("nz2;", -10);
+        tells("z", -10);
         tells(";", -10);
         tells("3;", -10);
         tells("N2;", -10);
@@ -503,6 +506,9 @@ public final class PromisesTest {
         is("song(0) behind a gate", x.song(0), 23);
         is("song(12)", x.song(12), BAD);
         is("song(-1)", x.song(-1), BAD);
+        HarpFences low = Due.farm("f0 1 1;k3 0;b0 0;");
+        is("goes(0, 0), just heard", low.goes(0, 0), 1);
+        is("song(0), just heard", low.song(0), 1);
         HarpFences y = Due.farm(RING);
         y.goes(0, 0);
         is("song(0)", y.song(0), 9);
@@ -593,6 +599,14 @@ public final class PromisesTest {
         x.cuts(1, 1);
         is("ends(0), cut", x.ends(0), 0);
         is("can, cut", x.can(), 0);
+        HarpFences row = Due.farm("n3;f0 1 5;f2 1 8;k3 0;");
+        row.hears(5);
+        row.hears(8);
+        is("ends(0), 5 and 8", row.ends(0), 4);
+        row.forget();
+        row.hears(8);
+        row.hears(5);
+        is("ends(0), 8 and 5", row.ends(0), 1);
         is("ends(3)", x.ends(3), BAD);
         is("ends(-1)", x.ends(-1), BAD);
     }
@@ -616,6 +630,8 @@ public final class PromisesTest {
         HarpFences y = Due.farm("n5;f1 2 0;f1 4 0;f0 1 10;f2 3 7;k3 0;k6 0;");
         y.hears(10);
         is("ask, who comes to it", y.ask(), 1);
+        HarpFences four = Due.farm("f0 1 9;f0 1 8;k3 0;k3 1;k3 2;k3 3;");
+        is("ask, all four sound alike", four.ask(), 0);
         HarpFences z = Due.farm("n4;f0 1 9;f2 3 10;k3 0;k3 0;");
         z.hears(10);
         is("ask, only where it can end", z.ask(), 1);
@@ -642,6 +658,8 @@ public final class PromisesTest {
         quiets(x, 0, 3, 1, 2, 0);
         x.lays(1);
         quiets(x, 0, 1, 0, 1, 0);
+        HarpFences low = Due.farm("f0 1 1;k3 0;");
+        quiets(low, 0, 1, 1, 1, 0);
         HarpFences square = Due.farm("n4;f2 3 5;f0 2 5;f0 1 5;f1 3 5;f0 3 0;k3 0;");
         quiets(square, 1, 2, 2, 2, 2);
         square.cuts(0, 1);
@@ -688,6 +706,21 @@ public final class PromisesTest {
         is("herd(-1), down", x.herd(-1), 18);
         is("herd(-2)", x.herd(-2), BAD);
         is("herd(3)", x.herd(3), BAD);
+        // Fifths of the fields: 1 2 1; as many beasts as fields.
+        HarpFences full = Due.farm("n3;f1 0 7;f1 2 7;f0 1 14;f1 2 0;k3 3;k3 5;b0 2;b1 2;b0 2;");
+        is("fifths(0)", full.fifths(0), 1);
+        is("herd(-1), full", full.herd(-1), 13);
+        is("herd(0), full", full.herd(0), 0);
+        is("herd(1), full", full.herd(1), 1);
+        is("herd(2), full", full.herd(2), 2);
+        HarpFences first = Due.farm("n4;f1 0 7;f0 2 14;f0 3 21;k3 9;k3 1;b0 2;b1 2;");
+        is("fifths(0)", first.fifths(0), 2);
+        is("herd(-1), at 0", first.herd(-1), 18);
+        is("herd(0), at 0", first.herd(0), 0);
+        is("herd(1), at 0", first.herd(1), 1);
+        HarpFences last = Due.farm("n3;f2 0 7;f1 2 14;k3 9;b0 2;");
+        is("herd(-1), at 2", last.herd(-1), 9);
+        is("herd(0), at 2", last.herd(0), 2);
         HarpFences like = Due.farm("n3;k3 5;b0 2;b0 2;");
         is("herd(-1), no fifths", like.herd(-1), 0);
         is("herd(0), no fifths", like.herd(0), 0);
