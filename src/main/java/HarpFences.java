@@ -5,6 +5,7 @@ public final class HarpFences {
 
     private static final int MOST_FIELDS = 8, MOST_FENCES = 8, MOST_KINDS = 4, MOST_BEASTS = 6;
     private static final int MOST_PITCH = 40, MOST_WET = 9, MOST_SOUND = 43;
+    private static final int MOST_VOICE = 3, MOST_MILK = 9, FIFTH = 7;
     private static final int MOST_BYTES = 150, MOST_SONG = 12, MOST_UNDONE = 10, MOST_HEARD = 6;
     private static final int IMAGES = 2;
     private static final int WAYS_MODULUS = 1000003;
@@ -515,11 +516,11 @@ public final class HarpFences {
 
         private boolean tellsKind(Land told) {
             int k = told.kinds;
-            if (!number(0, 6)) {
+            if (!number(0, 2 * MOST_VOICE)) {
                 return false;
             }
-            told.voice[k] = value - 3;
-            if (!number(0, 9)) {
+            told.voice[k] = value - MOST_VOICE;
+            if (!number(0, MOST_MILK)) {
                 return false;
             }
             told.milk[k] = value;
@@ -724,7 +725,7 @@ public final class HarpFences {
             for (int f = 1; f < land.fences; f++) {
                 for (int g = 0; g < f; g++) {
                     if (isStringAt(f, field) && isStringAt(g, field)
-                            && Math.abs(stand.pitch[f] - stand.pitch[g]) == 7) {
+                            && Math.abs(stand.pitch[f] - stand.pitch[g]) == FIFTH) {
                         fifths++;
                     }
                 }
