@@ -1018,11 +1018,11 @@ public final class HarpFences {
 
         int alike() {
             partnerAlikes();
-            int ends = 0;
+            int twos = 0;
             for (int f = 0; f < land.fences; f++) {
-                ends += Integer.bitCount(partners[f]);
+                twos += Integer.bitCount(partners[f]);
             }
-            return ends / 2;
+            return twos;
         }
 
         int fewestTuned() {
@@ -1037,17 +1037,17 @@ public final class HarpFences {
             for (int f = 0; f < land.fences; f++) {
                 if (farm.isString(f)) {
                     partners[land.first[f]] |= 1 << land.second[f];
-                    partners[land.second[f]] |= 1 << land.first[f];
                 }
             }
             return fewestOfEachTwo(land.fields);
         }
 
+        /** Each two is noted once, with the lower of both. */
         private void partnerAlikes() {
             for (int f = 0; f < land.fences; f++) {
                 partners[f] = 0;
-                for (int g = 0; g < land.fences; g++) {
-                    if (f != g && areAlike(f, g)) {
+                for (int g = f + 1; g < land.fences; g++) {
+                    if (areAlike(f, g)) {
                         partners[f] |= 1 << g;
                     }
                 }

@@ -1,7 +1,10 @@
 /** Long runs of calls on HarpFences and PlainFarm: each answer must be the same. */
 public final class PlainTest {
-    private static final int RUNS = 1500;
-    private static final int CALLS = 400;
+    private static final int RUNS = 12000;
+    private static final int TEXTS = 30000;
+    /** The document promises nothing of an object behind its 512th call. */
+    private static final int CALLS = 512;
+    private static final int LONGEST = 160;
     private static final Due DUE = new Due();
     private static final int[] FAR = {Integer.MIN_VALUE, Integer.MAX_VALUE, -10, 100, 32, 256, -1, 8};
     private static final String SCRAPS = "nfkbw;; 0123456789abz \u0000\u00c8A,-100 02";
@@ -9,6 +12,7 @@ public final class PlainTest {
     private final HarpFences x = new HarpFences();
     private final PlainFarm plain = new PlainFarm();
     private long seed;
+    private int calls;
 
     private PlainTest(long seed) {
         this.seed = seed;
@@ -18,6 +22,10 @@ public final class PlainTest {
         for (int run = 0; run < RUNS; run++) {
             DUE.part("run " + run);
             new PlainTest(run).run();
+        }
+        for (int run = 0; run < TEXTS; run++) {
+            DUE.part("text " + run);
+            new PlainTest(-1 - run).textWithAFault();
         }
         DUE.end();
     }
@@ -37,31 +45,31 @@ public final class PlainTest {
     }
 
     private int fence() {
-        return number(x.count(1));
+        return number(plain.count(1));
     }
 
     private int kind() {
-        return number(x.count(2));
+        return number(plain.count(2));
     }
 
     private int field() {
-        return number(x.count(0));
+        return number(plain.count(0));
     }
 
     private int soundThatIs() {
-        int k = any(x.count(2));
-        int f = any(x.count(1));
-        int s = x.sound(k, f);
+        int k = any(plain.count(2));
+        int f = any(plain.count(1));
+        int s = plain.sound(k, f);
         return s > 0 && any(8) != 0 ? s : number(44);
     }
 
     private void run() {
         reads(any(4) != 0);
-        for (int i = 0; i < CALLS; i++) {
+        while (calls < CALLS - LONGEST) {
             int luck = any(100);
             if (luck < 45) {
                 does();
-            } else if (luck < 97) {
+            } else if (luck < 98) {
                 asks();
             } else if (luck < 99) {
                 looks();
@@ -69,10 +77,21 @@ public final class PlainTest {
                 reads(any(2) == 0);
             }
         }
-        looks();
+        while (calls < CALLS - LONGEST / 3) {
+            looks();
+        }
+    }
+
+    private void textWithAFault() {
+        reads(false);
+        for (int what = 0; what <= 6; what++) {
+            is("count(" + what + ")", x.count(what), plain.count(what));
+        }
     }
 
     private void is(String call, long got, long want) {
+        calls++;
+        if (calls > CALLS) DUE.is("the 513th call", calls, CALLS);
         DUE.is(call, got, want);
     }
 
@@ -134,7 +153,7 @@ public final class PlainTest {
     // ---- calls
 
     private void does() {
-        int b = number(x.count(3));
+        int b = number(plain.count(3));
         int f = fence();
         switch (any(11)) {
             case 0: case 1: case 2: case 3: case 4: goesSomewhere(b); break;
@@ -148,9 +167,9 @@ public final class PlainTest {
     }
 
     private void goesSomewhere(int b) {
-        int on = x.beast(b, 1);
-        for (int f = any(2) * any(8); f < x.count(1); f++) {
-            if (x.fence(f, 0) == on || x.fence(f, 1) == on) {
+        int on = plain.beast(b, 1);
+        for (int f = any(2) * any(8); f < plain.count(1); f++) {
+            if (plain.fence(f, 0) == on || plain.fence(f, 1) == on) {
                 goes(b, f);
                 return;
             }
@@ -162,7 +181,7 @@ public final class PlainTest {
     }
 
     private void tunes(int f) {
-        int pitch = any(2) == 0 ? number(42) : x.fence(any(8), 2) + any(3) * 7 - 7;
+        int pitch = any(2) == 0 ? number(42) : plain.fence(any(8), 2) + any(3) * 7 - 7;
         is("tunes(" + f + ", " + pitch + ")", x.tunes(f, pitch), plain.tunes(f, pitch));
     }
 
@@ -192,7 +211,7 @@ public final class PlainTest {
             case 6: is("can", x.can(), plain.can()); break;
             case 7: is("ask", x.ask(), plain.ask()); break;
             case 8: case 9: quiet(k, from, to); break;
-            case 10: { int b = number(x.count(3) + 1) - 1; is("herd(" + b + ")", x.herd(b), plain.herd(b)); break; }
+            case 10: { int b = number(plain.count(3) + 1) - 1; is("herd(" + b + ")", x.herd(b), plain.herd(b)); break; }
             case 11: frost(k, from, to); break;
             case 12: marks(); break;
             default: { int what = number(7); is("now(" + what + ")", x.now(what), plain.now(what)); break; }
@@ -206,7 +225,7 @@ public final class PlainTest {
     }
 
     private void frost(int k, int from, int to) {
-        int pitch = any(2) == 0 ? x.fence(any(8), 2) + any(2) : number(41);
+        int pitch = any(2) == 0 ? plain.fence(any(8), 2) + any(2) : number(41);
         int odds = number(11);
         int what = number(2);
         is("frost(" + k + ", " + from + ", " + to + ", " + pitch + ", " + odds + ", " + what + ")",
@@ -220,25 +239,28 @@ public final class PlainTest {
         is("trace", x.trace(), plain.trace());
     }
 
-    /** Everything that can be looked at, edges too. */
+    /** One row of what can be looked at, edges too: some thirty calls. */
     private void looks() {
-        for (int i = -1; i <= 9; i++) {
-            is("count(" + i + ")", x.count(i), plain.count(i));
-            is("now(" + i + ")", x.now(i), plain.now(i));
-            is("fifths(" + i + ")", x.fifths(i), plain.fifths(i));
-            is("herd(" + i + ")", x.herd(i), plain.herd(i));
-            is("ends(" + i + ")", x.ends(i), plain.ends(i));
-            for (int what = -1; what <= 8; what++) {
-                is("fence(" + i + ", " + what + ")", x.fence(i, what), plain.fence(i, what));
-                is("kind(" + i + ", " + what + ")", x.kind(i, what), plain.kind(i, what));
-                is("beast(" + i + ", " + what + ")", x.beast(i, what), plain.beast(i, what));
-                is("sound(" + i + ", " + what + ")", x.sound(i, what), plain.sound(i, what));
-                is("ways(" + i + ", " + what + ")", x.ways(i, what), plain.ways(i, what));
+        int i = any(11) - 1;
+        is("count(" + i + ")", x.count(i), plain.count(i));
+        is("now(" + i + ")", x.now(i), plain.now(i));
+        is("fifths(" + i + ")", x.fifths(i), plain.fifths(i));
+        is("herd(" + i + ")", x.herd(i), plain.herd(i));
+        is("ends(" + i + ")", x.ends(i), plain.ends(i));
+        for (int what = -1; what <= 8; what++) {
+            switch (any(5)) {
+                case 0: is("fence(" + i + ", " + what + ")", x.fence(i, what), plain.fence(i, what)); break;
+                case 1: is("kind(" + i + ", " + what + ")", x.kind(i, what), plain.kind(i, what)); break;
+                case 2: is("beast(" + i + ", " + what + ")", x.beast(i, what), plain.beast(i, what)); break;
+                case 3: is("sound(" + i + ", " + what + ")", x.sound(i, what), plain.sound(i, what)); break;
+                default: is("ways(" + i + ", " + what + ")", x.ways(i, what), plain.ways(i, what)); break;
             }
         }
-        for (int i = -1; i <= 44; i++) {
-            is("song(" + i + ")", x.song(i), plain.song(i));
-            is("who(" + i + ")", x.who(i), plain.who(i));
+        for (int n = 0; n < 8; n++) {
+            int at = any(14) - 1;
+            is("song(" + at + ")", x.song(at), plain.song(at));
+            int sound = any(47) - 1;
+            is("who(" + sound + ")", x.who(sound), plain.who(sound));
         }
     }
 }
