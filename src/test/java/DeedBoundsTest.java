@@ -28,6 +28,7 @@ public final class DeedBoundsTest {
         undoKnowsEachOfTheSix();
         undoKnowsNothingElse();
         undoOfASongThatWasFull();
+        undoOfEveryBeastAndFence();
         undoLeavesTheOthers();
         nowWhat();
         nowNoneAndMost();
@@ -419,6 +420,40 @@ public final class DeedBoundsTest {
         is("song(0)", x.song(0), 11);
         is("song(10)", x.song(10), 1);
         is("song(11)", x.song(11), NONE);
+    }
+
+    private static void undoOfEveryBeastAndFence() {
+        DUE.part("promise 14: all is as ahead of it, each BEAST and each FENCE");
+        HarpFences x = Due.farm("f0 1 10;".repeat(8) + "k3 0;" + "b0 0;".repeat(6));
+        for (int b = 0; b < 6; b++) {
+            x.goes(b, 7 - b);
+            is("beast(" + b + ", 1)", x.beast(b, 1), 1);
+        }
+        x.lays(1);
+        for (int f = 5; f < 8; f++) {
+            x.cuts(f, 1);
+        }
+        is("undo", x.undo(), 9);
+        is("now(1)", x.now(1), 96);
+        x.undo();
+        x.undo();
+        is("now(1)", x.now(1), 0);
+        is("undo of laying", x.undo(), 6);
+        is("now(2)", x.now(2), 0);
+        for (int b = 5; b >= 0; b--) {
+            is("undo of going", x.undo(), b);
+            for (int other = 0; other < 6; other++) {
+                is("beast(" + other + ", 1)", x.beast(other, 1), other < b ? 1 : 0);
+            }
+        }
+        for (int f = 0; f < 8; f++) {
+            x.tunes(f, 20 + f);
+        }
+        for (int f = 7; f >= 0; f--) {
+            is("undo of tuning", x.undo(), f);
+            is("fence(" + f + ", 2)", x.fence(f, 2), 10);
+            is("fence of the one ahead", x.fence(Math.max(0, f - 1), 2), f == 0 ? 10 : 19 + f);
+        }
     }
 
     private static void undoLeavesTheOthers() {

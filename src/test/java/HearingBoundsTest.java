@@ -259,6 +259,12 @@ public final class HearingBoundsTest {
         is("ends(0), six by three strings", apart.ends(0), 207);
         hears(apart, 6);
         is("ends(0), one string", apart.ends(0), 48);
+        HarpFences dense = Due.farm("f0 1 1;f0 1 2;f0 1 3;f0 1 4;f0 1 5;f0 1 6;f0 1 7;f0 1 8;k3 0;k4 0;");
+        hears(dense, 8);
+        is("ends(0), the last of eight strings", dense.ends(0), 3);
+        is("ends(1), the last but one of eight strings", dense.ends(1), 3);
+        is("ways(0, 1), the last of eight strings", dense.ways(0, 1), 1);
+        is("can, the last of eight strings", dense.can(), 3);
         HarpFences fork = Due.farm("n8;f0 1 5;f1 2 6;f3 1 6;f1 4 5;f7 1 6;k3 0;");
         hears(fork, 5, 6);
         is("ends(0), a fork", fork.ends(0), 140);

@@ -17,6 +17,7 @@ public final class KindBoundsTest {
         imagesAreEachTheirOwn();
         imagesWithNothingToUndo();
         imagesWithAFullPast();
+        imagesOfEveryBeastAndFence();
         imagesKeepNothingElse();
         imagesAreGone();
         countByWhat();
@@ -198,6 +199,48 @@ public final class KindBoundsTest {
         is("count(5)", x.count(5), 10);
         is("undo", x.undo(), 9);
         is("fence(0, 2)", x.fence(0, 2), 14);
+    }
+
+    private static void imagesOfEveryBeastAndFence() {
+        DUE.part("promises 29 and 30: where BEASTS are, PITCHES, what is CUT, DOWN, WET, THE SONG");
+        HarpFences x = Due.farm("f0 1 10;".repeat(8) + "k3 0;" + "b0 0;".repeat(6));
+        x.keep(0);
+        for (int n = 0; n < 12; n++) {
+            x.goes(n % 6, n % 8);
+        }
+        for (int f = 0; f < 8; f++) {
+            x.tunes(f, 20 + f);
+            x.cuts(f, 1);
+        }
+        for (int b = 0; b < 6; b++) {
+            x.goes(b, b);
+        }
+        x.lays(1);
+        x.rains(9);
+        x.keep(1);
+        is("back(0)", x.back(0), 0);
+        for (int b = 0; b < 6; b++) {
+            is("beast(" + b + ", 1)", x.beast(b, 1), 0);
+        }
+        for (int f = 0; f < 8; f++) {
+            is("fence(" + f + ", 2)", x.fence(f, 2), 10);
+        }
+        is("now(1)", x.now(1), 0);
+        is("now(2)", x.now(2), 0);
+        is("now(3)", x.now(3), 0);
+        is("back(1)", x.back(1), 9);
+        for (int b = 0; b < 6; b++) {
+            is("beast(" + b + ", 1)", x.beast(b, 1), 1);
+        }
+        for (int f = 0; f < 8; f++) {
+            is("fence(" + f + ", 2)", x.fence(f, 2), 20 + f);
+        }
+        is("now(1)", x.now(1), 255);
+        is("now(2)", x.now(2), 255);
+        is("now(3)", x.now(3), 12);
+        for (int i = 0; i < 12; i++) {
+            is("song(" + i + ")", x.song(i), 10);
+        }
     }
 
     private static void imagesKeepNothingElse() {

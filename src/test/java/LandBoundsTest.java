@@ -210,6 +210,14 @@ public final class LandBoundsTest {
         x.lays(0);
         is("sound, neither", x.sound(0, 1), 4);
         x.cuts(0, 1);
+        HarpFences one = Due.farm("f0 1 5;k3 0;k3 0;k3 0;k3 0;");
+        for (int k = 0; k < 4; k++) {
+            is("sound to kind " + k, one.sound(k, 0), 5);
+        }
+        one.lays(1);
+        for (int k = 0; k < 4; k++) {
+            is("sound to kind " + k + ", down", one.sound(k, 0), 0);
+        }
         is("sound, the gate is cut", x.sound(0, 1), 4);
         is("sound of a gate that is cut", x.sound(0, 0), 0);
     }

@@ -18,6 +18,24 @@ final class Looks {
         return looks.seen.toString();
     }
 
+    /** What can be asked of ways, herds, fifths and frost; some 70 calls. */
+    static String asks(HarpFences x) {
+        Looks looks = new Looks(x);
+        looks.add("ask", x.ask());
+        for (int b = -1; b < x.count(3); b++) {
+            looks.add("herd", x.herd(b));
+        }
+        for (int field = 0; field < x.count(0); field++) {
+            looks.add("fifths", x.fifths(field));
+            looks.add("heard", x.quiet(0, field, 0, 0));
+            looks.add("crossings", x.quiet(0, 0, field, 1));
+            looks.add("first", x.quiet(0, field, 0, 2));
+            looks.add("upper", x.frost(0, field, 0, 8, 3, 0));
+            looks.add("lower", x.frost(0, 0, field, 8, 3, 1));
+        }
+        return looks.seen.toString();
+    }
+
     /** What can be undone, one by one: how all stands ahead of each. */
     static String undone(HarpFences x) {
         Looks looks = new Looks(x);

@@ -49,7 +49,11 @@ public final class RefusedTest {
         DUE.is("sounds heard that are full", full.make.get().count(4), 6);
         DUE.is("deeds known that are full", full.make.get().count(5), 10);
         DUE.is("a song that is full", full.make.get().now(3), 12);
-        for (Case c : List.of(fresh, some, full, text, crowd)) {
+        Case wide = new Case("many fields and beasts",
+                () -> Due.farm("n8;f7 3 9;k3 9;b0 7;b0 3;b0 5;b0 7;b0 6;b0 3;"));
+        Case dense = new Case("many fences and kinds",
+                () -> Due.farm("f0 1 9;".repeat(8) + "k3 1;k4 2;k5 3;k6 4;b3 1;"));
+        for (Case c : List.of(fresh, some, full, text, crowd, wide, dense)) {
             refuse(c, bad(c));
             leave(c, asked(c));
         }
@@ -78,7 +82,7 @@ public final class RefusedTest {
         x.hears(7);
         x.hears(7);
         x.mark(4, 2);
-        Due.types(x, "n3;f0 2 9;k4 4;b0 2;w7");
+        Due.types(x, "n3;f2 0 9;k4 4;b0 1;w7");
         return x;
     }
 

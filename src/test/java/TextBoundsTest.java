@@ -32,6 +32,7 @@ public final class TextBoundsTest {
         onlyTheByte32IsABlank();
         lettersAreAToZ();
         lettersThatBeginNoItem();
+        lettersAreNoNumbers();
         numbersHaveNo0Ahead();
         numbersAbove99();
         digitsAre0To9();
@@ -39,8 +40,10 @@ public final class TextBoundsTest {
         textThatEndsTooEarly();
         faultIsTheFirst();
         aFaultChangesNothing();
+        aFaultLeavesTheLand();
         readAnewAsAtFirst();
         readAnewAfterAllWasFull();
+        readAnewIsAsNew();
         DUE.end();
     }
 
@@ -382,6 +385,29 @@ public final class TextBoundsTest {
         }
     }
 
+    private static void lettersAreNoNumbers() {
+        DUE.part("promise 4: letters, NUMBERS and ; stand each in their place");
+        faults("w ab;", 2);
+        faults("w a;", 2);
+        faults("w w;", 2);
+        faults("n nn;", 2);
+        faults("n b;", 2);
+        faults("f zz 1 1;", 2);
+        faults("f1 zz 1;", 3);
+        faults("f0 1 zz;", 5);
+        faults("k zz 1;", 2);
+        faults("k1 zz;", 3);
+        faults("k0 0;b zz 0;", 7);
+        faults("k0 0;b0 zz;", 8);
+        faults("w5 zz", 3);
+        faults("w5 5", 3);
+        for (int letter = 'a'; letter <= 'c'; letter++) {
+            faults("k0 0;" + letter + " 0 0;", 5);
+        }
+        faults("0;", 0);
+        faults("0 0 0;", 0);
+    }
+
     private static void numbersHaveNo0Ahead() {
         DUE.part("promise 4: a NUMBER with a 0 ahead of others");
         tells("w0;", 1);
@@ -490,6 +516,34 @@ public final class TextBoundsTest {
         is("count(6)", x.count(6), 0);
     }
 
+    private static void aFaultLeavesTheLand() {
+        DUE.part("promise 4: a fault: all goes on as if the text were none");
+        String land = "n4;f0 1 7;f1 2 14;f3 2 7;k3 2;k6 5;b1 0;b0 2;b1 3;w2;";
+        String[] faulty = {"q", "n1;k0 9;b0 0;q", "n8;f7 6 1;f5 4 0;f2 7 3;f0 7 7;k0 0;k1 1;k2 2;b2 7;b2 6;w9",
+            "n4;f1 0 9;f2 1 9;f2 3 9;k6 9;k3 0;b0 3;b1 1;b0 0;w8;;", "f0 1 0;f0 1 0;f0 1 0;k0 0;b0 0;k",
+            "k6 9;" + SIX_BEASTS + "b"};
+        for (String text : faulty) {
+            HarpFences x = Due.farm(land);
+            HarpFences y = Due.farm(land);
+            Due.tells(x, text);
+            is("bytes behind '" + text + "'", x.clear(), text.length());
+            for (int b = 0; b <= 3; b++) {
+                for (int f = 0; f <= 3; f++) {
+                    is("goes(" + b + ", " + f + ")", x.goes(b, f), y.goes(b, f));
+                }
+            }
+            DUE.same("behind '" + text + "'", Looks.whole(x), Looks.whole(y));
+            DUE.same("behind '" + text + "'", Looks.asks(x), Looks.asks(y));
+            is("mark(2, 2)", x.mark(2, 2), 7);
+            is("mark(2, 1)", x.mark(2, 1), 13);
+            is("lays(1)", x.lays(1), 3);
+            is("now(2)", x.now(2), 7);
+            is("fence(2, 0)", x.fence(2, 0), 3);
+            is("fence(2, 1)", x.fence(2, 1), 2);
+            is("beast(1, 0)", x.beast(1, 0), 0);
+        }
+    }
+
     private static void readAnewAsAtFirst() {
         DUE.part("promise 4: read anew, what is not told as at first");
         HarpFences x = Due.farm("n8;f0 7 40;k6 9;b0 7;w9;");
@@ -536,5 +590,28 @@ public final class TextBoundsTest {
         is("hears", x.hears(10), 1);
         is("undo", x.undo(), 0);
         is("undo", x.undo(), STATE);
+    }
+
+    private static void readAnewIsAsNew() {
+        DUE.part("promise 4: read anew, all is as in a new object that reads the same");
+        String[] texts = {
+            "", "n1;k3 9;b0 0;", "k3 9;k3 9;b0 0;b1 0;", "n3;f0 1 7;f1 2 14;k3 9;b0 0;b0 1;b0 2;",
+            "n8;f0 7 7;f7 1 14;f2 7 21;f6 5 12;f5 6 5;f3 4 0;f4 3 9;f3 4 9;k0 9;k6 9;k3 1;k5 2;"
+                    + "b0 0;b1 1;b2 2;b3 3;b0 4;b1 7;w9;",
+            "f0 1 9;".repeat(8) + "k3 5;k3 5;b0 1;b1 0;"};
+        for (String first : texts) {
+            for (String second : texts) {
+                HarpFences x = Due.farm(first);
+                Looks.asks(x);
+                x.lays(1);
+                Due.tells(x, second);
+                DUE.same("'" + second + "' behind '" + first + "'", Looks.whole(x), Looks.whole(Due.farm(second)));
+                HarpFences y = Due.farm(first);
+                y.cuts(0, 1);
+                Looks.asks(y);
+                Due.tells(y, second);
+                DUE.same("'" + second + "' behind '" + first + "'", Looks.asks(y), Looks.asks(Due.farm(second)));
+            }
+        }
     }
 }

@@ -24,6 +24,7 @@ public final class WaysBoundsTest {
         herdOfNoneToSix();
         herdOfEachFirstOfAll();
         herdOfMoreThanFields();
+        herdOfAllFieldsReadAnew();
         herdTheFirstOfSeveral();
         herdMost();
         frostByThereIs();
@@ -135,6 +136,10 @@ public final class WaysBoundsTest {
         quiets(Due.farm("n4;f2 3 5;f1 3 5;f0 2 5;f0 1 5;k3 0;"), 0, 3, 2, 2, 2);
         quiets(Due.farm("n4;f2 3 5;f1 3 5;f0 2 5;f0 1 5;k3 0;"), 3, 0, 2, 2, 0);
         quiets(Due.farm("n4;f2 3 5;f1 3 0;f0 2 5;f0 1 5;k3 0;"), 0, 3, 1, 2, 3);
+        quiets(Due.farm("f0 1 9;f0 1 9;f0 1 9;f0 1 9;f0 1 9;f0 1 9;f0 1 9;f0 1 0;k3 0;"), 0, 1, 0, 1, 7);
+        for (int k = 0; k < 4; k++) {
+            is("quiet of kind " + k, Due.farm("n8;f7 3 5;k3 0;k3 0;k3 0;k3 0;").quiet(k, 3, 7, 2), 0);
+        }
         quiets(Due.farm("n8;f1 2 0;f2 3 0;f3 4 0;f4 5 0;f5 6 0;f6 7 0;f7 0 0;f0 7 0;k3 0;"), 0, 7, 0, 1, 6);
     }
 
@@ -236,6 +241,16 @@ public final class WaysBoundsTest {
                 is("herd of the next" + of, x.herd(beasts), BAD);
             }
         }
+    }
+
+    private static void herdOfAllFieldsReadAnew() {
+        DUE.part("promise 26: as many BEASTS as FIELDS, read anew");
+        HarpFences x = Due.farm("n8;f7 0 7;f7 1 14;k3 9;" + "b0 0;".repeat(6));
+        is("herd(-1)", x.herd(-1), 9);
+        is("downs", Due.tells(x, "f0 1 7;f1 0 14;k3 1;k3 2;b0 0;b1 0;"), 6);
+        herds(x, 3, 0, 1);
+        is("downs", Due.tells(x, "n1;k3 9;b0 0;"), 3);
+        herds(x, 0, 0);
     }
 
     private static void herdTheFirstOfSeveral() {
