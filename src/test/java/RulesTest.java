@@ -99,6 +99,8 @@ public final class RulesTest {
         none(code, "->|::|\"");
         none(code, "\\b\\w+Exact\\b");
         none(code, "\\b(equals|hashCode|toString|System\\.(out|err|exit|nanoTime|currentTimeMillis))\\b");
+        library(code);
+        methodLengths(code);
         // Everything is made with the object: no call makes anything new.
         Matcher made = Pattern.compile("(?m)^.*\\bnew\\b.*$").matcher(code);
         while (made.find()) {
@@ -107,6 +109,26 @@ public final class RulesTest {
             boolean inConstructor = line.strip().matches("(ahead|images)\\[i\\] = new \\w+\\(\\);");
             DUE.is("'" + line.strip() + "' is made in a constructor", held || inConstructor ? 1 : 0, 1);
         }
+    }
+
+    private static void library(String code) {
+        Set<String> allowed = Set.of("Integer.bitCount", "Math.abs", "Math.max", "Math.min", "System.arraycopy");
+        Matcher used = Pattern.compile("\\b[A-Z]\\w*[a-z]\\w*\\.\\w+(?=\\()").matcher(code);
+        while (used.find()) {
+            boolean own = used.group().equals("Paths.commonDivisor");
+            DUE.is(used.group() + " may be used", own || allowed.contains(used.group()) ? 1 : 0, 1);
+        }
+    }
+
+    private static void methodLengths(String code) {
+        Matcher method = Pattern.compile("(?m)^(    |        )(?=\\S)[^=;\n]*\\) \\{\n(?s:.*?)^\\1\\}$").matcher(code);
+        int methods = 0;
+        while (method.find()) {
+            methods++;
+            String first = method.group().substring(0, method.group().indexOf('\n')).strip();
+            DUE.is(first + " is short", method.group().lines().count() <= 60 ? 1 : 0, 1);
+        }
+        DUE.is("methods were found", methods > 60 ? 1 : 0, 1);
     }
 
     private static void none(String code, String pattern) {
